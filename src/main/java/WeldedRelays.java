@@ -68,13 +68,14 @@ public final class WeldedRelays {
     }
 
     public int read() {
-        if (faultInTrial() != NONE) {
+        trial.copyFrom(room);
+        if (reader.readInto(trial, pad) != NONE) {
             return BAD_TEXT;
         }
         history.record(room);
         room.copyFrom(trial);
         pad.clear();
-        return Integer.bitCount(room.relaysWithBranches());
+        return room.relaysWithBranches();
     }
 
     public int press(int button, boolean isOn) {
@@ -160,9 +161,6 @@ public final class WeldedRelays {
             return NO_SUCH;
         }
         int place = placeOf(relay, branch);
-        if (!isWithin(place, 0, RELAYS * MOST_BRANCHES - 1)) {
-            return NO_SUCH;
-        }
         switch (what) {
             case 0:
                 return room.isClosed(place) ? 1 : 0;
@@ -200,7 +198,7 @@ public final class WeldedRelays {
             case 7:
                 return room.life;
             case 8:
-                return Integer.bitCount(room.relaysWithBranches());
+                return room.relaysWithBranches();
             case 9:
                 return room.neverClosedBranches();
             case 10:
@@ -253,7 +251,8 @@ public final class WeldedRelays {
         if (relay == welded) {
             return BAD_VALUE;
         }
-        int up = upIfWelded(welded);
+        tryWelded(welded);
+        int up = trial.upAtRest();
         return up == NONE ? NONE : bit(up, relay);
     }
 
@@ -263,7 +262,8 @@ public final class WeldedRelays {
         }
         int found = 0;
         for (int other = 0; other < RELAYS; other++) {
-            if (other != relay && isUpIn(upIfWelded(other), relay)) {
+            tryWelded(other);
+            if (other != relay && isUpIn(trial.upAtRest(), relay)) {
                 found |= 1 << other;
             }
         }
@@ -276,7 +276,11 @@ public final class WeldedRelays {
         }
         for (int size = 0; size <= BUTTONS; size++) {
             for (int buttons = 0; buttons <= BUTTON_SET; buttons++) {
-                if (Integer.bitCount(buttons) == size && isReachedWith(buttons, relay)) {
+                if (Integer.bitCount(buttons) != size) {
+                    continue;
+                }
+                tryButtons(buttons);
+                if (isUpIn(trial.upAtRest(), relay)) {
                     return buttons;
                 }
             }
@@ -305,7 +309,8 @@ public final class WeldedRelays {
     }
 
     public int fault() {
-        return faultInTrial();
+        trial.copyFrom(room);
+        return reader.readInto(trial, pad);
     }
 
     // ---- undo, saving
@@ -346,22 +351,10 @@ public final class WeldedRelays {
         trial.buttons = buttons;
     }
 
-    private int upIfWelded(int welded) {
+    private void tryWelded(int welded) {
         tryButtons(0);
         trial.up |= 1 << welded;
         trial.welded |= 1 << welded;
-        return trial.upAtRest();
-    }
-
-    private boolean isReachedWith(int buttons, int relay) {
-        tryButtons(buttons);
-        return isUpIn(trial.upAtRest(), relay);
-    }
-
-    /** Reads the pad into the trial, so that a fault found late leaves the room as it is. */
-    private int faultInTrial() {
-        trial.copyFrom(room);
-        return reader.readInto(trial, pad);
     }
 
     /** Apart from a bit test, as NONE is a negative number with bits of its own. */
@@ -549,26 +542,25 @@ public final class WeldedRelays {
         }
 
         boolean hasRoomForContact(int relay) {
-            return branchCounts[relay] > 0 && contactCounts[lastPlace(relay)] < MOST_CONTACTS;
+            int last = branchCounts[relay] - 1;
+            return last >= 0 && contactCounts[placeOf(relay, last)] < MOST_CONTACTS;
         }
 
         void addContact(int relay, int contact, boolean isBack) {
-            if (hasRoomForContact(relay)) {
+            int last = branchCounts[relay] - 1;
+            if (last >= 0) {
+                int place = placeOf(relay, last);
                 int[] row = isBack ? backs : fronts;
-                row[lastPlace(relay)] |= 1 << contact;
-                contactCounts[lastPlace(relay)]++;
+                row[place] |= 1 << contact;
+                contactCounts[place]++;
             }
-        }
-
-        private int lastPlace(int relay) {
-            return placeOf(relay, branchCounts[relay] - 1);
         }
 
         int relaysWithBranches() {
             int found = 0;
             for (int relay = 0; relay < RELAYS; relay++) {
                 if (branchCounts[relay] > 0) {
-                    found |= 1 << relay;
+                    found++;
                 }
             }
             return found;
@@ -696,7 +688,7 @@ public final class WeldedRelays {
                 case AT_BRANCH:
                     return takesFirstContact(target, sign);
                 case BEHIND_NOT:
-                    return takesContact(target, sign, true);
+                    return takesContact(target, sign);
                 default:
                     return takesNextOfBranch(target, sign);
             }
@@ -726,7 +718,7 @@ public final class WeldedRelays {
 
         private boolean takesFirstContact(Room target, int sign) {
             target.addBranch(relay);
-            return takesStartOfContact(target, sign);
+            return takesContact(target, sign);
         }
 
         private boolean takesNextOfBranch(Room target, int sign) {
@@ -736,14 +728,14 @@ public final class WeldedRelays {
             if (sign == '+') {
                 return target.hasRoomForBranch(relay) && goesTo(AT_BRANCH);
             }
-            return target.hasRoomForContact(relay) && takesStartOfContact(target, sign);
+            return target.hasRoomForContact(relay) && takesContact(target, sign);
         }
 
-        private boolean takesStartOfContact(Room target, int sign) {
-            return sign == '!' ? goesTo(BEHIND_NOT) : takesContact(target, sign, false);
-        }
-
-        private boolean takesContact(Room target, int sign, boolean isBack) {
+        private boolean takesContact(Room target, int sign) {
+            boolean isBack = place == BEHIND_NOT;
+            if (sign == '!' && !isBack) {
+                return goesTo(BEHIND_NOT);
+            }
             int contact = contactOf(sign);
             if (contact == NO_CONTACT) {
                 return false;

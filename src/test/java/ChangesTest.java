@@ -7,6 +7,7 @@ public final class ChangesTest {
         lifeWelds(due);
         read(due);
         readLimits(due);
+        readLeavesNothingOld(due);
         press(due);
         weld(due);
         pass(due);
@@ -120,6 +121,23 @@ public final class ChangesTest {
         due.is("an older branch is gone", Due.read(x, "J=B"), 10);
         due.is("branch(9, 0, 3)", x.branch(9, 0, 3), 0);
         due.is("branch(9, 0, 4)", x.branch(9, 0, 4), 0);
+    }
+
+    private static void readLeavesNothingOld(Due due) {
+        WeldedRelays x = Due.room("A=!a!BcD+!cJ+E!E", "A=d");
+        due.is("relay(0, 8)", x.relay(0, 8), 1);
+        int[] wants = {0, 1, 0, 0, Due.buttons("d"), 0};
+        for (int what = 0; what < wants.length; what++) {
+            due.is("branch(0, 0, " + what + ")", x.branch(0, 0, what), wants[what]);
+        }
+        due.is("branch(0, 1, 0)", x.branch(0, 1, 0), Due.NO_SUCH);
+        for (int relay = 0; relay < 10; relay++) {
+            due.is("relay(" + relay + ", 10)", x.relay(relay, 10), 0);
+        }
+        due.is("count(9)", x.count(9), 0);
+        due.is("count(1)", x.count(1), 0);
+        Due.read(x, "A=d+!d");
+        due.is("the second one anew", x.branch(0, 1, 3) + x.branch(0, 1, 2), 0);
     }
 
     private static void press(Due due) {

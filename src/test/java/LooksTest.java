@@ -108,6 +108,8 @@ public final class LooksTest {
         Due.read(x, "A=0");
         due.is("count(8) without A", x.count(8), 3);
         due.is("count(9) without A", x.count(9), 1);
+        Due.read(x, "B=a;E=a+b!b;E=a");
+        due.is("count(9) without any", x.count(9), 0);
     }
 
     private static void lookCounts(Due due, WeldedRelays x, int... wants) {

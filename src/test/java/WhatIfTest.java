@@ -90,6 +90,9 @@ public final class WhatIfTest {
         y.press(0, true);
         y.settle();
         due.is("from how it is", y.race(1), 0);
+        WeldedRelays quick = Due.room("A=a!B;B=a;C=A+C");
+        due.is("a pulse that is too short", quick.rest(1, 0), Due.relays("B"));
+        due.is("but not if all times are 1", quick.race(1), 1);
         WeldedRelays z = Due.room("A=a!A+aB;B=A");
         due.is("a room that rests if all times are 1 alone", z.race(1), raceByHand(z));
         z.time(0, true, 9);
