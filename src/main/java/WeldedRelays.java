@@ -309,7 +309,7 @@ public final class WeldedRelays {
     }
 
     public int fault() {
-        trial.copyFrom(room);
+        // What the trial held before is of no matter, as every circuit begins without branches.
         return reader.readInto(trial, pad);
     }
 
