@@ -2,7 +2,7 @@ import java.util.Random;
 
 /** Promises 1 to 23 by long runs of calls, each compared with the model. */
 public final class ModelTest {
-    private static final int RUNS = 400;
+    private static final int RUNS = 500;
     private static final int CALLS = 512;
 
     private final Due due;
@@ -10,6 +10,8 @@ public final class ModelTest {
     private final int run;
     private final WeldedRelays x = new WeldedRelays();
     private final Model y = new Model();
+    // The document promises nothing of an object behind its 512th call.
+    private int calls;
 
     private ModelTest(Due due, int run) {
         this.due = due;
@@ -21,14 +23,15 @@ public final class ModelTest {
         Due due = new Due("ModelTest");
         for (int run = 0; run < RUNS; run++) {
             ModelTest test = new ModelTest(due, run);
-            for (int call = 0; call < CALLS; call++) {
-                test.call(call);
+            for (int number = 0; test.calls < CALLS; number++) {
+                test.call(number);
             }
         }
         due.end();
     }
 
     private void same(String call, int got, int want) {
+        calls++;
         due.is("run " + run + ", " + call, got, want);
     }
 
@@ -83,7 +86,7 @@ public final class ModelTest {
             appendCircuit(text);
         }
         spoil(text);
-        for (int from = 0; from < text.length(); from += 8) {
+        for (int from = 0; from < text.length() && calls < CALLS; from += 8) {
             long packed = Due.packed(text.substring(from, Math.min(text.length(), from + 8)));
             same("put " + packed, x.put(packed), y.put(packed));
         }

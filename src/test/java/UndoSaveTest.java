@@ -2,7 +2,6 @@
 public final class UndoSaveTest {
     public static void main(String[] args) {
         Due due = new Due("UndoSaveTest");
-        undoOfEachChange(due);
         undoErrors(due);
         sixStates(due);
         notRecorded(due);
@@ -11,47 +10,6 @@ public final class UndoSaveTest {
         restore(due);
         slotsOfTheirOwn(due);
         due.end();
-    }
-
-    private static void undoOfEachChange(Due due) {
-        WeldedRelays x = Due.room("A=a;B=A!b");
-        x.press(0, true);
-        x.pass(3);
-        x.press(1, true);
-        String first = print(x);
-        x.time(1, false, 7);
-        String second = print(x);
-        x.life(5);
-        String third = print(x);
-        x.pass(7);
-        String fourth = print(x);
-        x.weld(0, true);
-        String fifth = print(x);
-        Due.read(x, "A=0;C=c+d;B=!A!B!C");
-        String sixth = print(x);
-        x.settle();
-        undoTo(due, x, 5, sixth);
-        undoTo(due, x, 4, fifth);
-        undoTo(due, x, 3, fourth);
-        undoTo(due, x, 2, third);
-        undoTo(due, x, 1, second);
-        undoTo(due, x, 0, first);
-        due.is("undo() of none", x.undo(), Due.NOT_POSSIBLE);
-        due.is("the state stays", print(x).equals(first) ? 1 : 0, 1);
-        x.press(1, false);
-        x.save(0);
-        x.pass(9);
-        String seventh = print(x);
-        x.restore(0);
-        undoTo(due, x, 2, seventh);
-        x.undo();
-        undoTo(due, x, 0, first);
-    }
-
-    private static void undoTo(Due due, WeldedRelays x, int left, String state) {
-        due.is("undo()", x.undo(), left);
-        due.is("count(11) behind undo()", x.count(11), left);
-        due.is("the state behind undo()", print(x).equals(state) ? 1 : 0, 1);
     }
 
     private static void undoErrors(Due due) {
@@ -157,7 +115,7 @@ public final class UndoSaveTest {
         x.press(0, true);
         x.pass(3);
         x.save(1);
-        String saved = print(x);
+        String saved = Look.state(x);
         x.press(1, true);
         x.weld(0, false);
         x.life(0);
@@ -165,19 +123,19 @@ public final class UndoSaveTest {
         Due.read(x, "A=0;B=0;C=!C");
         x.pass(77);
         Due.put(x, "A=");
-        String before = print(x);
+        String before = Look.state(x);
         due.is("restore(1)", x.restore(1), 1);
-        due.is("all is back", print(x).equals(saved) ? 1 : 0, 1);
+        due.is("all is back", Look.state(x).equals(saved) ? 1 : 0, 1);
         due.is("the pad stays", x.count(10), 2);
         due.is("the history stays", x.count(11), 6);
         due.is("restore(1) again", x.restore(1), 1);
         x.undo();
         x.undo();
-        due.is("undone", print(x).equals(before) ? 1 : 0, 1);
+        due.is("undone", Look.state(x).equals(before) ? 1 : 0, 1);
         due.is("the slot keeps it", x.restore(1), 1);
         x.pass(50);
         due.is("the slot does not move along", x.restore(1), 1);
-        due.is("all is back", print(x).equals(saved) ? 1 : 0, 1);
+        due.is("all is back", Look.state(x).equals(saved) ? 1 : 0, 1);
     }
 
     private static void slotsOfTheirOwn(Due due) {
@@ -189,24 +147,5 @@ public final class UndoSaveTest {
         due.is("restore(0)", x.restore(0), 0);
         due.is("restore(1)", x.restore(1), 1);
         due.is("restore(0)", x.restore(0), 0);
-    }
-
-    /** All that can be asked, but for the pad and the history. */
-    private static String print(WeldedRelays x) {
-        StringBuilder print = new StringBuilder();
-        for (int what = 0; what < 10; what++) {
-            print.append(x.count(what)).append(' ');
-        }
-        for (int relay = 0; relay < 10; relay++) {
-            for (int what = 0; what <= 10; what++) {
-                print.append(x.relay(relay, what)).append(' ');
-            }
-            for (int branch = 0; branch < x.relay(relay, 8); branch++) {
-                for (int what = 0; what <= 5; what++) {
-                    print.append(x.branch(relay, branch, what)).append(' ');
-                }
-            }
-        }
-        return print.toString();
     }
 }
