@@ -60,8 +60,9 @@ public final class NothingElseTest {
     private static void settings(Due due) {
         for (int number = 0; number < 10; number++) {
             int relay = number;
-            changes(due, "time to pick up of " + relay, x -> x.time(relay, false, 5), "relay(" + relay + ", 6)", RECORDED);
-            changes(due, "time to drop of " + relay, x -> x.time(relay, true, 5), "relay(" + relay + ", 7)", RECORDED);
+            String name = "relay(" + relay + ", ";
+            changes(due, "time to pick up of " + relay, x -> x.time(relay, false, 5), name + "6)", RECORDED);
+            changes(due, "time to drop of " + relay, x -> x.time(relay, true, 5), name + "7)", RECORDED);
         }
         changes(due, "time() as it is", x -> x.time(0, true, 9), RECORDED);
         for (int number : new int[] {0, 1, 2, 89, 99}) {

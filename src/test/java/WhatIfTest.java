@@ -32,9 +32,10 @@ public final class WhatIfTest {
         due.is("no tick", x.ifPressed(0, 0), Due.relays("ABC"));
         WeldedRelays y = Due.room("A=!A");
         y.life(1);
-        due.is("LIFE counts here, too", y.ifPressed(0, 200), 1);
+        due.is("LIFE counts here, too", y.ifPressed(0, 199), 1);
+        due.is("up for good", y.ifPressed(0, 200), 1);
         due.is("but welds none", y.count(2), 0);
-        due.is("without LIFE", Due.room("A=!A").ifPressed(0, 3), 0);
+        due.is("without LIFE", Due.room("A=!A").ifPressed(0, 199), 0);
     }
 
     private static void rest(Due due) {
