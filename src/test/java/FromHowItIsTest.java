@@ -70,8 +70,14 @@ public final class FromHowItIsTest {
         x.time(1, false, 3);
         due.is("ifPressed(0, 2)", x.ifPressed(0, 2), 0);
         due.is("ifPressed(0, 3)", x.ifPressed(0, 3), Due.relays("AB"));
-        due.is("rest(0, 0)", x.rest(0, 0), Due.NONE);
         due.is("race(0)", x.race(0), 0);
+        neverRests(due, x);
+    }
+
+    private static void neverRests(Due due, WeldedRelays x) {
+        for (int what = 0; what <= 2; what++) {
+            due.is("rest(0, " + what + ")", x.rest(0, what), Due.NONE);
+        }
         due.is("ifWelded(0, 9)", x.ifWelded(0, 9), Due.NONE);
         due.is("unsafe(0)", x.unsafe(0), 0);
         due.is("reach(0)", x.reach(0), Due.NONE);
@@ -123,22 +129,16 @@ public final class FromHowItIsTest {
         WeldedRelays x = Due.room("A=!A");
         x.life(70);
         due.is("ifPressed(0, 195)", x.ifPressed(0, 195), 0);
-        due.is("rest(0, 0)", x.rest(0, 0), Due.NONE);
         due.is("race(0)", x.race(0), 1);
-        due.is("ifWelded(0, 9)", x.ifWelded(0, 9), Due.NONE);
-        due.is("unsafe(0)", x.unsafe(0), 0);
-        due.is("reach(0)", x.reach(0), Due.NONE);
+        neverRests(due, x);
     }
 
     private static void withoutLife(Due due) {
         WeldedRelays x = fiveTimesUp();
         x.life(0);
         due.is("ifPressed(0, 195)", x.ifPressed(0, 195), 0);
-        due.is("rest(0, 0)", x.rest(0, 0), Due.NONE);
         due.is("race(0)", x.race(0), 0);
-        due.is("ifWelded(0, 9)", x.ifWelded(0, 9), Due.NONE);
-        due.is("unsafe(0)", x.unsafe(0), 0);
-        due.is("reach(0)", x.reach(0), Due.NONE);
+        neverRests(due, x);
     }
 
     /** C never rests if A is down. */
